@@ -24,6 +24,8 @@ public final class BalloonStall {
     private static final int LETTERS = 5;
     private static final int LOCKING_ENDS = 3;
     private static final int GONE = -1;
+    /** Longer than all bubbles of any figure together. */
+    private static final int BEYOND = 1_000_000;
 
     private final Sorts sorts = new Sorts();
     private final Tape tape = new Tape();
@@ -568,8 +570,8 @@ public final class BalloonStall {
 
         int slackTwistsUpTo(int last) {
             int many = 0;
-            for (int i = 0; i < last; i++) {
-                if (slackBehind(i)) {
+            for (int i = 0; i < last && i + 1 < bubbles; i++) {
+                if (balloonOf[i] == balloonOf[i + 1] && endsAt[to[i]] < LOCKING_ENDS) {
                     many++;
                 }
             }
@@ -1037,7 +1039,7 @@ public final class BalloonStall {
             }
             int doubled = 0;
             int length = 0;
-            int least = Integer.MAX_VALUE;
+            int least = BEYOND;
             for (int step = 1; step < 1 << f.bubbles; step++) {
                 int i = Integer.numberOfTrailingZeros(step);
                 doubled ^= 1 << i;
@@ -1107,7 +1109,7 @@ public final class BalloonStall {
 
         private static int shortest(Figure f, int done) {
             int shortest = 0;
-            int least = Integer.MAX_VALUE;
+            int least = BEYOND;
             for (int i = 0; i < f.bubbles; i++) {
                 if ((done & (1 << i)) == 0 && f.length[i] < least) {
                     least = f.length[i];
