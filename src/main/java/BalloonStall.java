@@ -1247,16 +1247,23 @@ public final class BalloonStall {
         private void countFewest(int all) {
             fewest[0] = 0;
             for (int choice = 1; choice <= all; choice++) {
-                int lowest = choice & -choice;
-                int others = choice ^ lowest;
-                int least = CAN_NOT;
-                for (int more = others; more >= 0; more = more == 0 ? -1 : (more - 1) & others) {
-                    if (makeable[lowest | more] && fewest[others ^ more] + 1 < least) {
-                        least = fewest[others ^ more] + 1;
-                    }
-                }
-                fewest[choice] = least;
+                fewest[choice] = fewestOf(choice);
             }
+        }
+
+        /** Tries each set of the lowest bubble and some of the others: there are as many as the others have subsets. */
+        private int fewestOf(int choice) {
+            int lowest = choice & -choice;
+            int others = choice ^ lowest;
+            int more = others;
+            int least = CAN_NOT;
+            for (int untried = 1 << Integer.bitCount(others); untried > 0; untried--) {
+                if (makeable[lowest | more]) {
+                    least = Math.min(least, fewest[others ^ more] + 1);
+                }
+                more = (more - 1) & others;
+            }
+            return least;
         }
 
         private int keepSets(int all, int place) {

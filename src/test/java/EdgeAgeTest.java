@@ -185,6 +185,8 @@ public final class EdgeAgeTest {
     // "and others with them, as by POP"
     private static void othersAreLostAsByPop() {
         aged("#0 1 30 30", "w:1", 2, 30, 0, 0);
+        aged("#0 30 30 1", "w:1", 0, 30, 0, 0);
+        aged("#0 30 1 30", "w:1", 0, 30, 0, 0);
         aged("#0 1 a 30/#0 a 30", "w:1", 1, 30, 0, 0);
         aged("#0 1 a 30/#0 a 30", "w:1", 2, 30, 29, 28);
         aged("#0 1 a 30/#0 a 30/#0 a 30", "w:1", 1, 30, 29, 28);
@@ -242,6 +244,18 @@ public final class EdgeAgeTest {
     }
 
     private static void eachFigureAndRuleForItself() {
+        BalloonStall y = stall("#0 9", "w:1");
+        Checks.figure(y, "#0 5/#0 1");
+        Checks.figure(y, "#0 1/#0 9");
+        Checks.figure(y, "#0 1 9");
+        int[] behind3 = {6, 2, 0, 0};
+        for (int i = 0; i < 16; i++) {
+            int f = i % 4 ^ i / 4;
+            Checks.due("aged(" + f + ", 0, 3, 0)", y.aged(f, 0, 3, 0), behind3[f]);
+            Checks.due("falls(" + f + ", 0, 0)", y.falls(f, 0, 0), f == 0 ? 9 : 1);
+        }
+        Checks.due("aged(2, 0, 1, 1)", y.aged(2, 0, 1, 1), 8);
+        Checks.due("aged(3, 0, 1, 1)", y.aged(3, 0, 1, 1), 0);
         BalloonStall x = stall("#0 30 30", "w:1");
         Checks.figure(x, "#0 20");
         Checks.rule(x, "w:2");

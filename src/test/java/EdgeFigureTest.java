@@ -180,6 +180,11 @@ public final class EdgeFigureTest {
         row(x, 3, 2, 1, 0);
         row(x, 4, 1, 0, 1, 1, 1);
         row(x, 4, 2, 1, 1, 1, 1);
+        BalloonStall y = with("#0 b 1 a(2 a b 3)4").get();
+        row(y, 0, 1, 0, 0, 0, 0);
+        row(y, 0, 2, 0, 0, 0, 1);
+        Checks.due("points, where the ( stood being joined meanwhile", y.many(0, 2), 2);
+        Checks.due("ends where all meet", y.ends(0, 0), 7);
     }
 
     // "POINTS, as they are JOINED in the end, as they first come"
@@ -191,6 +196,11 @@ public final class EdgeFigureTest {
         row(y, 0, 1, 0, 2, 3, 4);
         row(y, 0, 2, 1, 1, 1, 5);
         Checks.due("ends where all meet", y.ends(0, 1), 3);
+        BalloonStall z = with("#0 a/#0 a 1", "#0 a/#0 b/#0 1 c b a").get();
+        row(z, 0, 1, 0);
+        row(z, 0, 2, 1);
+        row(z, 1, 1, 1);
+        row(z, 1, 2, 0);
     }
 
     // "(a BUBBLE from a POINT to itself has two)"

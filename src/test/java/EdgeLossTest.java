@@ -14,6 +14,7 @@ public final class EdgeLossTest {
         lostOneByAnother();
         aLoopLeavesTwoEnds();
         allOf24AreLost();
+        ofThirtyPoints();
         fallsCountsWhatIsNotLost();
         partsHangTogetherByPoints();
         weakestLosesMost();
@@ -139,6 +140,13 @@ public final class EdgeLossTest {
         pop("#0" + " 1".repeat(12) + "/#0" + " 1".repeat(12), 11, 0xfff, 1);
     }
 
+    private static void ofThirtyPoints() {
+        String six = "#0 1 1 1 1/#0 1 1 1 1/#0 1 1 1 1/#0 1 1 1 1/#0 1 1 1 1/#0 1 1 1 1";
+        pop(six, 0, 15, 5);
+        pop(six, 23, 0xf00000, 5);
+        weakest(six, 0);
+    }
+
     // "FALLS: of how many parts .. what is not LOST consists"
     private static void fallsCountsWhatIsNotLost() {
         pop("#0 1", 0, 1, 0);
@@ -156,6 +164,8 @@ public final class EdgeLossTest {
         pop("#0 1/#0 a 1/#0 b 1/#0 b 1 a", 3, 8, 3);
         pop("#0 1/#0 a 1 b/#0 a 1 b", 1, 2, 2);
         pop("#0 1/#0 a(1)/#0 a(1)", 0, 1, 1);
+        pop("#0 a 1 b/#0 1 a/#0 a 1 b/#0 1", 3, 8, 1);
+        pop("#0 a 1 b/#0 1 a/#0 a 1 b/#0 1", 1, 2, 2);
     }
 
     private static void weakest(String text, int want) {

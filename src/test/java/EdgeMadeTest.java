@@ -16,6 +16,7 @@ public final class EdgeMadeTest {
         madeOfNoBubbles();
         eachBalloonOneWay();
         fewestComeFirst();
+        setsComeByTheirLowestBubbles();
         theFirstSetIsTheLowestNumber();
         thenTheSecondSet();
         theSetBehindTheLast();
@@ -78,6 +79,8 @@ public final class EdgeMadeTest {
         strokes("#0 1/#0 a/#0 b", 1);
         strokes("#0 1/#0 1/#0 1/#0(1)/#0(1)/#0(1)", 6);
         strokes("#0 1/#0 a 1/#0 a 1/#0 a 1", 3);
+        strokes("#0 a 1 b/#0 1 a/#0 a 1 b", 1);
+        strokes("#0 1 1 1 1/#0 1 1 1 1/#0 1 1 1 1/#0 1 1 1 1/#0 1 1 1 1/#0 1 1 1 1", 6);
     }
 
     private static void made(BalloonStall x, int figure, int sort, int... sets) {
@@ -176,6 +179,10 @@ public final class EdgeMadeTest {
         made("#0 a 1 b 1 c 1 d 1 a 1 c/#0 b 1 d", 0, 1, 62);
         made("#0 1 a(1)1/#0 a(1)", 0, 15);
         made("#0 a 1 1 a/#0 b 1 1 b", 0, 3, 12);
+        made("#0 a 1 b/#0 a 1 b/#0 a 1 c/#0 a 1 c", 0, 15);
+        made("#0 a 1 b/#0 a 1 c/#0 a 1 b/#0 a 1 c/#0 a 1 d/#0 a 1 d", 0, 63);
+        made("#0 a(1)/#0 a 1/#0 a(1)/#0 a 1/#0 a(1)", 0, 31);
+        made("#0 a 1 b/#0 c(1)/#0 a 1 c/#0 a(1)", 0, 15);
     }
 
     // "the fewest BALLOONS of that SORT"
@@ -190,6 +197,24 @@ public final class EdgeMadeTest {
         made(x, 1, 0, 3, 12, 48);
         made(x, 2, 0, 3, 12);
         made(x, 3, 0, 3, 12);
+        Checks.figure(x, "#0 a 4/#0 a 6/#0 a 9/#0 a 1");
+        Checks.figure(x, "#0 a 1/#0 a 9/#0 a 6/#0 a 4");
+        made(x, 4, 0, 3, 12);
+        made(x, 5, 0, 3, 12);
+    }
+
+    // "SETS of BUBBLES told by their lowest ones"
+    private static void setsComeByTheirLowestBubbles() {
+        BalloonStall x = new BalloonStall();
+        x.sort(10, 0, 0);
+        Checks.figure(x, "#0 a 5/#0 a 9/#0 a 5");
+        Checks.figure(x, "#0 a 5/#0 b 5/#0 b 5/#0 a 5");
+        Checks.figure(x, "#0 a 5/#0 b 10/#0 b 10/#0 a 5");
+        Checks.figure(x, "#0 a 5/#0 b 5/#0 c 5/#0 c 5/#0 b 5/#0 a 5");
+        made(x, 0, 0, 5, 2);
+        made(x, 1, 0, 9, 6);
+        made(x, 2, 0, 9, 2, 4);
+        made(x, 3, 0, 33, 18, 12);
     }
 
     // "of several ways that whose first SET as bits is the lowest number"
@@ -244,6 +269,14 @@ public final class EdgeMadeTest {
         Checks.due("a figure that comes later", x.made(3, 3), -1);
         Checks.figure(x, "#0 21");
         made(x, 3, 3, 1);
+        Checks.figure(x, "#0 1 1 1 1");
+        Checks.figure(x, "#0 1/#0 1/#0 1/#0 1");
+        Checks.figure(x, "#0(1)/#0(1)/#0(1)");
+        for (int again = 0; again < 2; again++) {
+            made(x, 4, again, 15);
+            made(x, 6, again, 1, 2, 4);
+            made(x, 5, again, 1, 2, 4, 8);
+        }
     }
 
     private static void twice(String text, int want) {
@@ -285,6 +318,10 @@ public final class EdgeMadeTest {
     // "the least length of BUBBLES made twice .. wherever it ends"
     private static void theLeastLengthMadeTwice() {
         twice("#0 a 7/#0 a 5/#0 a 9", 5);
+        twice("#0 a 5/#0 a 7/#0 a 9", 5);
+        twice("#0 a 9/#0 a 7/#0 a 5", 5);
+        BalloonStall x = with("#0 c 1 d/#0 c 1 d/#0 c 1 d/#0 c 1 d", "#0 a 5/#0 a 7/#0 a 9").get();
+        Checks.due("twice behind a figure of more bubbles", x.twice(1), 5);
         twice("#0 a 7/#0 a 5/#0 a 9/#0 a 8", 12);
         twice("#0 a 1/#0 a 2/#0 a 3/#0 a 4/#0 a 5", 6);
         twice("#0 a 1/#0 a 2/#0 a 3/#0 a 4/#0 a 5/#0 a 6", 10);

@@ -20,6 +20,7 @@ public final class EdgeNetTest {
         whatCanNotBeReached();
         spanOfOnePart();
         spanOfSeveralParts();
+        ofThirtyPoints();
         Checks.close("EdgeNetTest");
     }
 
@@ -116,6 +117,22 @@ public final class EdgeNetTest {
         alike("#0 1", "#0 2", 0);
         alike("#0 30", "#1 30", 1);
         alike("#0 a 1 b 1 a/#0 b 2 c", "#0 a 1 b 2 a/#0 b 1 c", 0);
+        alike("#0 a 1 b 1 c 1 a/#0 d 1 e 1 f 1 d", "#0 a 1 b 1 c 1 d 1 e 1 f 1 a", 0);
+        alike("#0 a 1 b 1 a/#0 c 1 d 1 c", "#0 a 1 b 1 c 1 d 1 a", 0);
+        alike("#0 a 1 b 1 a/#0 c 1 d 1 c", "#0 a 1 d 1 a/#0 c 1 b 1 c", 1);
+        alike(between(1, 24), between(1, 24), 1);
+        alike(between(1, 24), between(2, 25), 0);
+        alike(between(1, 23) + "/#0 a 24 b", between(1, 23) + "/#0 a 25 b", 0);
+        alike(between(7, 30), between(7, 30), 1);
+    }
+
+    /** Two points between which there are bubbles of all these lengths. */
+    private static String between(int least, int most) {
+        StringBuilder text = new StringBuilder("#0a");
+        for (int length = least; length <= most; length++) {
+            text.append(length).append(length % 2 == least % 2 ? 'b' : 'a');
+        }
+        return text.toString();
     }
 
     // "(and from each to itself)"
@@ -166,6 +183,14 @@ public final class EdgeNetTest {
         Checks.due("match(0, 3, 0)", x.match(0, 3, 0), -1);
         Checks.figure(x, "#0 2 1");
         Checks.due("match(0, 3, 0) when it is there", x.match(0, 3, 0), 2);
+        BalloonStall y = with(between(1, 24), between(7, 30), "#0(29)", "#0(28)", "#0(3)").get();
+        for (int again = 0; again < 2; again++) {
+            for (int one = 0; one < 5; one++) {
+                for (int other = 0; other < 5; other++) {
+                    Checks.due("alike(" + one + ", " + other + ")", y.alike(one, other), one == other ? 1 : 0);
+                }
+            }
+        }
     }
 
     private static void farToItselfIs0() {
@@ -208,6 +233,16 @@ public final class EdgeNetTest {
         for (int f = 0; f < want.length; f++) {
             Checks.due("span(" + f + ")", x.span(f), want[f]);
         }
+    }
+
+    private static void ofThirtyPoints() {
+        BalloonStall x = with("#0 1 2 3 4/#0 1 1 1 1/#0 1 1 1 1/#0 1 1 1 1/#0 1 1 1 1/#0 1 1 1 30").get();
+        Checks.due("far(0, 25, 29)", x.far(0, 25, 29), 33);
+        Checks.due("far(0, 29, 25)", x.far(0, 29, 25), 33);
+        Checks.due("far(0, 29, 24)", x.far(0, 29, 24), -1);
+        Checks.due("far(0, 30, 30)", x.far(0, 30, 30), -1);
+        Checks.due("span", x.span(0), 33);
+        Checks.due("alike", x.alike(0, 0), -1);
     }
 
     // "of POINTS that can be reached from each other"

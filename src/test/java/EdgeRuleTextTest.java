@@ -438,6 +438,12 @@ public final class EdgeRuleTextTest {
         Checks.due("a refused text", Checks.rule(x, "w:!((1=1?"), -1);
         Checks.due("its openings are forgotten", Checks.rule(x, "w:((((((1=1))))))?2"), 2);
         Checks.due("worth", x.worth(2, 0, 0, 0, 0, 0), 2);
+        Checks.due("a refused text of a !", Checks.rule(x, "w:!1=1"), -1);
+        Checks.due("its ! is forgotten", Checks.rule(x, "w:5"), 3);
+        Checks.due("worth", x.worth(3, 0, 0, 0, 0, 0), 5);
+        Checks.due("a refused text of a condition", Checks.rule(x, "w:1=2?1;w:1=2?"), -1);
+        Checks.due("its condition is forgotten", Checks.rule(x, "w:6"), 4);
+        Checks.due("worth", x.worth(4, 0, 0, 0, 0, 0), 6);
         Checks.due("worth of the one before", x.worth(1, 0, 0, 0, 0, 0), 1);
     }
 }

@@ -213,7 +213,8 @@ public final class EdgeWorthTest {
         worth("w:l+1<h*2?1;w:2", 2, 3, 2);
     }
 
-    private static final String[] TRUTH = {"1=2", "1=1"};
+    /** Each of the three signs, once where it does not hold and once where it does. */
+    private static final String[][] TRUTHS = {{"1=2", "1=1"}, {"2<2", "1<2"}, {"2>2", "2>1"}};
 
     // "TRUTHS with | between"; "UNITS with & between"
     private static void truthsTakeTurns() {
@@ -221,9 +222,9 @@ public final class EdgeWorthTest {
             int a = i & 1;
             int b = i >> 1 & 1;
             int c = i >> 2;
-            String x = TRUTH[a];
-            String y = TRUTH[b];
-            String z = TRUTH[c];
+            String x = TRUTHS[0][a];
+            String y = TRUTHS[1][b];
+            String z = TRUTHS[2][c];
             worth("w:" + x + "|" + y + "&" + z + "?1", a | b & c);
             worth("w:" + x + "&" + y + "|" + z + "?1", a & b | c);
             worth("w:(" + x + "|" + y + ")&" + z + "?1", (a | b) & c);
@@ -238,9 +239,10 @@ public final class EdgeWorthTest {
         for (int i = 0; i < 4; i++) {
             int a = i & 1;
             int b = i >> 1;
-            String x = TRUTH[a];
-            String y = TRUTH[b];
+            String x = TRUTHS[1][a];
+            String y = TRUTHS[2][b];
             worth("w:!" + x + "?1", 1 - a);
+            worth("w:!" + y + "?1", 1 - b);
             worth("w:!!" + x + "?1", a);
             worth("w:!!!!!!" + x + "?1", a);
             worth("w:!!!!!" + x + "?1", 1 - a);
