@@ -322,6 +322,8 @@ public final class EdgeMadeTest {
         twice("#0 a 9/#0 a 7/#0 a 5", 5);
         BalloonStall x = with("#0 c 1 d/#0 c 1 d/#0 c 1 d/#0 c 1 d", "#0 a 5/#0 a 7/#0 a 9").get();
         Checks.due("twice behind a figure of more bubbles", x.twice(1), 5);
+        BalloonStall y = with("#0 1 a 1 b 1 1 1/#0 a 1 b", "#0 a 5/#0 a 5/#0 a 5/#0 a 5/#0 a 5").get();
+        Checks.due("twice behind a figure of one bubble more", y.twice(1), 15);
         twice("#0 a 7/#0 a 5/#0 a 9/#0 a 8", 12);
         twice("#0 a 1/#0 a 2/#0 a 3/#0 a 4/#0 a 5", 6);
         twice("#0 a 1/#0 a 2/#0 a 3/#0 a 4/#0 a 5/#0 a 6", 10);
